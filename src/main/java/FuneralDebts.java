@@ -234,8 +234,8 @@ public final class FuneralDebts {
     }
 
     public int on(int n, int what) {
-        boolean yard = what >= 10 && now.has(what - 10);
-        boolean paid = what >= 20 && now.has(what - 20);
+        boolean yard = now.has(what - 10);
+        boolean paid = now.has(what - 20);
         if (!yard && !paid) {
             return NONE;
         }
@@ -684,16 +684,14 @@ public final class FuneralDebts {
             put(vs, number, v);
             put(loves, number, love);
             put(yards, number, yard);
-            // One that undo() took back may have left its own here.
-            put(paid, number, 0);
-            for (int part = 0; part < ROW_PARTS; part++) {
-                put(rows, number * ROW_PARTS + part, 0);
-            }
-            send(number, false);
             size++;
             return number;
         }
 
+        /**
+         * Rows come whole, so that all behind the last MOURNER stays 0: add() finds nothing there
+         * of one that undo() took back.
+         */
         void takeAfter(Scene other) {
             size = other.size;
             copyRow(other.kinds, kinds);
@@ -808,7 +806,7 @@ public final class FuneralDebts {
      * that was all it needed; the place where one stops short is the FAULT.
      */
     private static final class Reader {
-        static final int END = -1, MOST_WITHIN = 4;
+        static final int END = -1, MOST_DEPTH = 4;
 
         private final byte[] signs;
         private int size;
@@ -881,9 +879,9 @@ public final class FuneralDebts {
             return true;
         }
 
-        /** An E, within so many others. */
-        private boolean readEither(int within) {
-            boolean good = readPart(within);
+        /** An E, within so many ( and !. */
+        private boolean readEither(int depth) {
+            boolean good = readPart(depth);
             boolean alternativeWaits = false;
             for (int n = 0; n < MOST_TEXT && good && (sign == '&' || sign == '|'); n++) {
                 boolean and = sign == '&';
@@ -893,7 +891,7 @@ public final class FuneralDebts {
                 }
                 alternativeWaits |= !and;
                 advance();
-                good = readPart(within);
+                good = readPart(depth);
                 if (and) {
                     into.addStep(Parish.AND, 0, 0);
                 }
@@ -904,22 +902,22 @@ public final class FuneralDebts {
             return good;
         }
 
-        /** An F, within so many others. */
-        private boolean readPart(int within) {
+        /** An F, within so many ( and !. */
+        private boolean readPart(int depth) {
             if (sign != '!' && sign != '(') {
                 return readTest();
             }
-            if (within >= MOST_WITHIN) {
+            if (depth >= MOST_DEPTH) {
                 return false;
             }
             boolean not = sign == '!';
             advance();
             if (not) {
-                boolean good = readPart(within + 1);
+                boolean good = readPart(depth + 1);
                 into.addStep(Parish.NOT, 0, 0);
                 return good;
             }
-            return readEither(within + 1) && readWord(")");
+            return readEither(depth + 1) && readWord(")");
         }
 
         private boolean readTest() {

@@ -60,6 +60,12 @@ public final class JudgingTest {
         check.due("one away pays nothing", x.judge(0, 1), 2);
         x.item(0, 2, 51);
         check.due("the second", x.judge(0, 1), 1);
+        FuneralDebts y = new FuneralDebts();
+        y.mourner(0, 0, 0, 0);
+        y.tape(0, 1, 1);
+        check.due("of one mourner", y.judge(0, 0), 0);
+        y.tape(0, -1, 0);
+        check.due("nothing any more", y.judge(0, 0), 100);
     }
 
     private static void image() {
@@ -310,6 +316,7 @@ public final class JudgingTest {
         check.due("no place", x.item(5, 0, 0), -13);
         check.due("nothing", x.tape(5, -1, -99), 1);
         check.due("holds nothing", x.item(5, 0, 0), -11);
+        check.due("nor reads", x.read(5, 0), NO);
     }
 
     private static void item() {
@@ -373,6 +380,8 @@ public final class JudgingTest {
         check.due("down", x.shift(0, 2, 0, 0, 3), 3);
         tells(x, 0, 2, 3, 4, 3, 4);
         check.due("none", x.shift(0, 5, 1, 3, 0), 0);
+        check.due("all", x.shift(0, 0, 0, 0, 5), 5);
+        tells(x, 0, 2, 3, 4, 3, 4);
         check.due("tape -1", x.shift(-1, 0, 5, 0, 0), -1);
         check.due("other 6", x.shift(5, 0, 6, 0, 0), -1);
         check.due("nothing there", x.shift(5, 0, 0, 0, 0), -11);

@@ -182,6 +182,14 @@ public final class MournersTest {
         }
         Check.parish(x, "less 99 p<3");
         check.due("nobody pays below 0", x.of(1, 6), 0);
+        // Weepers far off, of rate 1 each.
+        FuneralDebts y = new FuneralDebts();
+        y.mourner(3, 0, 0, 9);
+        check.due("one far off pays all", y.of(0, 6), 100);
+        y.mourner(3, 0, 0, 9);
+        y.mourner(3, 0, 0, 9);
+        check.due("the first of three", y.of(0, 6), 34);
+        check.due("the last of three", y.of(2, 6), 33);
     }
 
     private static void set() {
@@ -249,6 +257,13 @@ public final class MournersTest {
         check.due("another kind", x.row(0, 0, 9), -3);
         check.due("part ahead of kind", x.row(0, 4, 9), -1);
         check.due("nothing changed", x.row(1, 0, 0), 1);
+        for (int m = 2; m < 6; m++) {
+            x.mourner(6, 0, 0, 0);
+            check.due("row of " + m, x.row(m, 3, m), 0);
+        }
+        for (int m = 2; m < 6; m++) {
+            check.due("rate of " + m, x.of(m, 13), 14 + m);
+        }
     }
 
     private static void feed() {
@@ -288,6 +303,13 @@ public final class MournersTest {
         check.due("full ahead of a fault", x.parish(), -4);
         check.due("parishes", x.count(1), 6);
         check.due("the newest holds", x.told(1), 0);
+        // What was read ahead of a fault is gone.
+        FuneralDebts y = new FuneralDebts();
+        y.mourner(0, 0, 0, 0);
+        check.due("fault", Check.parish(y, "more 50 p=0;yard 9;less 7 p=0|!p=1;?"), -45);
+        check.due("one", Check.parish(y, "more 1 p=0"), 0);
+        check.due("fall", y.told(1), 2);
+        check.due("rate", y.of(0, 11), 20 + 1 - 2);
     }
 
     private static void fault(String text, int place) {
@@ -498,6 +520,11 @@ public final class MournersTest {
         y.mourner(0, 0, 0, 0);
         check.due("gone, but no better off", y.told(5), 0);
         check.due("behind a day", y.on(1, 10) + y.on(1, 11), 18);
+        // Both come to 0, where with love for it each is better off than far away.
+        FuneralDebts w = new FuneralDebts();
+        w.mourner(0, 0, 20, 9);
+        w.mourner(0, 0, 20, 9);
+        check.due("both gain", w.told(5), 3);
         // On day 1 the vicar would pay, and be worse off there than now.
         FuneralDebts z = new FuneralDebts();
         z.mourner(4, 0, 1, 9);

@@ -87,6 +87,7 @@ public final class SeenTest {
         x.mourner(0, 0, 0, 0);
         check.due("of two above", x.odds(0, 0), 1);
         check.due("of two below", x.odds(0, 1), 1);
+        check.due("of the other", x.odds(1, 0), 1);
         for (int m = 2; m < 6; m++) {
             x.mourner(0, 0, 0, 0);
         }
