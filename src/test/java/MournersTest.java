@@ -384,6 +384,17 @@ public final class MournersTest {
         // 98 bytes hold 23 tests; two more make 100 bytes that end too early.
         check.due("98 bytes", Check.parish(x, long100.toString()), 4);
         fault(long100 + "|p", 100);
+        // However much was read ahead of faults, as much can be read again.
+        FuneralDebts y = new FuneralDebts();
+        y.mourner(0, 0, 0, 0);
+        for (int n = 0; n < 4; n++) {
+            check.due("fault", Check.parish(y, long100.toString().replace('0', '9') + "|p"), -110);
+        }
+        check.due("98 bytes", Check.parish(y, long100.toString().replace('0', '9')), 0);
+        check.due("none of 23 is so", y.of(0, 10), 20);
+        String last = "less 1 " + long100.substring(7).replace('0', '9').replaceAll("9$", "0");
+        check.due("98 bytes", Check.parish(y, last), 1);
+        check.due("the last of 23 is so", y.of(0, 10), 19);
     }
 
     /** What a clause adds to the rate of a mourner at a yard (20 without). */
