@@ -884,15 +884,15 @@ public final class FuneralDebts {
             boolean good = readPart(depth);
             boolean alternativeWaits = false;
             for (int n = 0; n < MOST_TEXT && good && (sign == '&' || sign == '|'); n++) {
-                boolean and = sign == '&';
+                boolean or = sign == '|';
                 // What & joins binds closer, so | is put off until its right side is whole.
-                if (!and && alternativeWaits) {
+                if (or && alternativeWaits) {
                     into.addStep(Parish.OR, 0, 0);
                 }
-                alternativeWaits |= !and;
+                alternativeWaits = alternativeWaits || or;
                 advance();
                 good = readPart(depth);
-                if (and) {
+                if (!or) {
                     into.addStep(Parish.AND, 0, 0);
                 }
             }

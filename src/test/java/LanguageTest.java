@@ -22,6 +22,7 @@ public final class LanguageTest {
         names();
         fields();
         signs(text);
+        headings(text);
         words(withoutComments(text));
         lengths(withoutComments(text));
         check.finish();
@@ -108,6 +109,30 @@ public final class LanguageTest {
         for (int i = 0; i < text.length(); i++) {
             if (text.charAt(i) > 126) {
                 isSo("sign " + i + " is one of 1 to 127", false);
+            }
+        }
+    }
+
+    /** The document says which comment stands ahead of which calls. */
+    private static void headings(String text) {
+        String[][] groups = {
+            {"mourners, parishes", "mourner", "of", "set", "away", "debt", "row", "feed", "parish",
+                "told"},
+            {"days", "pass", "on", "kept"},
+            {"seen, odds", "see", "can", "odds", "mean"},
+            {"plans, books", "plan", "ends", "book", "looked"},
+            {"judging, the image, acts, tapes", "judge", "image", "undo", "act", "trace", "taken",
+                "count", "tape", "item", "read", "shift"},
+        };
+        int from = 0;
+        for (String[] group : groups) {
+            int heading = text.indexOf("// ---- " + group[0] + "\n");
+            isSo("---- " + group[0] + " stands behind the calls before", heading > from);
+            from = heading;
+            for (int i = 1; i < group.length; i++) {
+                Matcher call = Pattern.compile("public (int|long) " + group[i] + "\\(").matcher(text);
+                isSo(group[i] + " stands behind ---- " + group[0], call.find(from));
+                from = call.start();
             }
         }
     }
