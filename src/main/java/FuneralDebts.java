@@ -40,9 +40,7 @@ public final class FuneralDebts {
     private final Scene image = new Scene();
     private boolean imageTaken;
 
-    private final byte[] text = new byte[MOST_TEXT];
-    private int textSize;
-    private final Reader reader = new Reader(text);
+    private final Reader reader = new Reader();
     private final Parish[] parishes = new Parish[MOST_PARISHES];
     private int parishCount;
     private final Parish noParish = new Parish();
@@ -159,15 +157,7 @@ public final class FuneralDebts {
     }
 
     public int feed(int sign) {
-        if (!within(sign, MOST_SIGN)) {
-            return BAD;
-        }
-        if (textSize < 0 || textSize >= text.length) {
-            return FULL;
-        }
-        text[textSize] = (byte) sign;
-        textSize++;
-        return textSize;
+        return within(sign, MOST_SIGN) ? reader.append(sign) : BAD;
     }
 
     public int parish() {
@@ -175,9 +165,7 @@ public final class FuneralDebts {
         if (next == null) {
             return FULL;
         }
-        boolean good = reader.readAll(textSize, next);
-        textSize = 0;
-        if (!good) {
+        if (!reader.readAll(next)) {
             return -10 - reader.place;
         }
         now.holds = parishCount;
@@ -526,7 +514,7 @@ public final class FuneralDebts {
             case 4:
                 return now.book.size;
             case 5:
-                return textSize;
+                return reader.size;
             case 6:
                 return actor.ran;
             default:
@@ -802,14 +790,14 @@ public final class FuneralDebts {
     }
 
     /**
-     * Reads a text into a parish. Each method goes on over what it could read and answers whether
-     * that was all it needed; the place where one stops short is the FAULT.
+     * Keeps THE TEXT and reads it into a parish. Each method goes on over what it could read and
+     * answers whether that was all it needed; the place where one stops short is the FAULT.
      */
     private static final class Reader {
         static final int END = -1, MOST_DEPTH = 4;
 
-        private final byte[] signs;
-        private int size;
+        private final byte[] text = new byte[MOST_TEXT];
+        int size;
         int place;
         /** The sign at the place; END behind the last. */
         private int sign = END;
@@ -817,12 +805,17 @@ public final class FuneralDebts {
         private int number;
         private Parish into = new Parish();
 
-        Reader(byte[] text) {
-            signs = text;
+        int append(int added) {
+            if (size < 0 || size >= text.length) {
+                return FULL;
+            }
+            text[size] = (byte) added;
+            size++;
+            return size;
         }
 
-        boolean readAll(int textSize, Parish parish) {
-            size = textSize;
+        /** THE TEXT is empty behind this, whether it was a parish or not. */
+        boolean readAll(Parish parish) {
             into = parish;
             into.clear();
             place = -1;
@@ -832,12 +825,13 @@ public final class FuneralDebts {
                 advance();
                 good = readClause();
             }
+            size = 0;
             return good && sign == END;
         }
 
         private void advance() {
             place++;
-            sign = place >= 0 && place < size && place < signs.length ? signs[place] : END;
+            sign = place >= 0 && place < size && place < text.length ? text[place] : END;
         }
 
         private boolean readClause() {

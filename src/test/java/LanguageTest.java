@@ -152,6 +152,12 @@ public final class LanguageTest {
             Matcher m = Pattern.compile(word).matcher(code);
             isSo("no " + word, !m.find());
         }
+        // A constructor hands out nothing of the object that it makes: to its own rows neither.
+        isSo("no this handed on", !Pattern.compile("[(,]\\s*this\\s*[,)]").matcher(code).find());
+        Matcher given = Pattern.compile("\\bnew [A-Z]\\w*\\(([^)]*)\\)").matcher(code);
+        while (given.find()) {
+            isSo("made of constants: " + given.group(), given.group(1).matches("[A-Z_]*"));
+        }
         // Whatever a call needs is made with the object.
         Matcher made = Pattern.compile("\n([^\n]*)\\bnew \\w").matcher(code);
         while (made.find()) {
